@@ -87,7 +87,7 @@ public final class KingsBalance {
     public int cost(int king, int other) {
         if (!realm.has(king) || !realm.has(other)) return NONE;
         if (king == other) return BAD;
-        return realm.costOf(king, other);
+        return realm.world.costOf(realm, king, other);
     }
 
     public int force(int king, int place) {
@@ -134,7 +134,7 @@ public final class KingsBalance {
         switch (what) {
             case 0: return sumA;
             case 1: return sumB;
-            case 2: return (sumA > sumB ? realm.worth[b][a] : -realm.worth[a][b]) - realm.costOf(a, b);
+            case 2: return (sumA > sumB ? realm.worth[b][a] : -realm.worth[a][b]) - realm.world.costOf(realm, a, b);
             default: return NO;
         }
     }
@@ -237,11 +237,11 @@ public final class KingsBalance {
         Standing s = realm.standingAt(standing);
         if (s == null || outside(what, 1)) return NONE;
         if (s.firstWar(realm) >= 0) return STATE;
+        // the change is answered without its way: below 0 stand the refusals
         for (int n = 1; n <= MOST_CHANGE; n++) {
-            int byLess = upsetBy(s, -n);
-            if (byLess >= 0) return what == 0 ? -n : byLess;
-            int byMore = upsetBy(s, n);
-            if (byMore >= 0) return what == 0 ? n : byMore;
+            int king = upsetBy(s, -n);
+            if (king < 0) king = upsetBy(s, n);
+            if (king >= 0) return what == 0 ? n : king;
         }
         return what == 0 ? 0 : NOBODY;
     }
@@ -465,10 +465,6 @@ public final class KingsBalance {
             return king;
         }
 
-        int costOf(int king, int other) {
-            return world.total(Math.abs(place[king] - place[other]), strength[king], strength[other], king);
-        }
-
         int forceAt(int king, int where) {
             return Math.max(0, strength[king] * 1000 - world.less * Math.abs(place[king] - where));
         }
@@ -496,7 +492,7 @@ public final class KingsBalance {
 
         /** Whether a war with that enemy costs him no more than a broken word. */
         boolean bears(int king, int enemy) {
-            return costOf(king, enemy) <= world.word;
+            return world.costOf(this, king, enemy) <= world.word;
         }
 
         /** Whether he would KEEP his word with d against at least one of the others. */
@@ -594,6 +590,7 @@ public final class KingsBalance {
         private static final int CLAUSES = 10, MOST_OPEN = 5;
         // the tests' letters have the numbers 0 to 3
         private static final int NOT = 4, AND = 5, OR = 6;
+        private static final int LESS = 0, SAME = 1, MORE = 2;
 
         int word = 0;
         int less = 0;
@@ -621,10 +618,10 @@ public final class KingsBalance {
         }
 
         /** What all cost clauses that hold come to. Truths that wait are bits, the newest one lowest. */
-        int total(int miles, int own, int others, int king) {
-            facts[0] = miles;
-            facts[1] = own;
-            facts[2] = others;
+        int costOf(Realm r, int king, int other) {
+            facts[0] = Math.abs(r.place[king] - r.place[other]);
+            facts[1] = r.strength[king];
+            facts[2] = r.strength[other];
             facts[3] = king;
             int sum = 0, at = 0;
             for (int c = 0; c < costs && c < CLAUSES; c++) {
@@ -635,8 +632,9 @@ public final class KingsBalance {
                         case AND: bits = bits >> 1 & (bits & 1 | -2); break;
                         case OR: bits = bits >> 1 | bits & 1; break;
                         default:
-                            bits <<= 1;
-                            if (Integer.compare(facts[what[at] & 3], number[at]) == sign[at]) bits |= 1;
+                            int fact = facts[what[at] & 3];
+                            int is = fact < number[at] ? LESS : fact > number[at] ? MORE : SAME;
+                            bits = bits << 1 | (is == sign[at] ? 1 : 0);
                     }
                 }
                 if ((bits & 1) != 0) sum += price[c];
@@ -728,8 +726,7 @@ public final class KingsBalance {
             if (compare < 0) return false;
             int n = t.numeral();
             if (n < 0) return false;
-            // as Integer.compare tells it: -1 is less, 1 is more
-            step(letter, compare - 1, n);
+            step(letter, compare, n);
             return true;
         }
 
@@ -864,7 +861,7 @@ public final class KingsBalance {
             if (r.worth[b][a] == 0) return false;
             int camps = camps(r, a, b);
             int sumA = r.forcesAt(attackers(camps), r.place[b]);
-            return sumA > r.forcesAt(defenders(camps), r.place[b]) && r.worth[b][a] > r.costOf(a, b);
+            return sumA > r.forcesAt(defenders(camps), r.place[b]) && r.worth[b][a] > r.world.costOf(r, a, b);
         }
 
         /** Bits of those whom a KING DARES. */
@@ -1041,7 +1038,7 @@ public final class KingsBalance {
         private static int keepers(Realm r, int bits, int enemy) {
             int kept = 0;
             for (int c = 0; c < r.kings; c++) {
-                if ((bits >> c & 1) != 0 && r.costOf(c, enemy) <= r.world.word) kept |= 1 << c;
+                if ((bits >> c & 1) != 0 && r.world.costOf(r, c, enemy) <= r.world.word) kept |= 1 << c;
             }
             return kept;
         }

@@ -182,6 +182,9 @@ public final class KingsTest {
         faultAt(0, "x");
         faultAt(0, " cost 3 m=1");
         faultAt(0, ";");
+        faultAt(1, "w5");
+        faultAt(2, "wo5");
+        faultAt(4, "cost5 m=1");
         faultAt(1, "c");
         faultAt(1, "cist");
         faultAt(3, "wor");
@@ -245,6 +248,9 @@ public final class KingsTest {
         goesWell("word 1;word 2;word 3;word 4;word 5;word 6;word 7;word 8;word 9;take 1");
         faultAt(69, "word 1;word 2;word 3;word 4;word 5;word 6;word 7;word 8;word 9;take 1;");
         faultAt(69, "word 1;word 2;word 3;word 4;word 5;word 6;word 7;word 8;word 9;take 1;less 1");
+        String ten = Play.times("cost 1 m=1;", 9) + "cost 1 m=1";
+        goesWell(ten);
+        faultAt(109, ten + ";");
         String full = "cost 1 m=1" + Play.times("&m<9|o>0", 13) + "&s<123";
         Due.is("bytes of the longest world", full.length(), 120);
         goesWell(full);
@@ -266,6 +272,13 @@ public final class KingsTest {
         Play.feed(x, "7");
         Due.is("third world", x.world(), 3);
         Due.is("count(2)", x.count(2), 3);
+        // what stood on THE TAPE ahead of it does not count
+        Due.is("a world", Play.world(x, "word 1;less 22"), 4);
+        Due.is("its beginning", Play.world(x, "wo"), -12);
+        Due.is("nor behind it", Play.world(x, "word 1;l"), -18);
+        Due.is("nor behind a number", Play.world(x, "word "), -15);
+        for (int n = 1; n <= 40; n++) Due.is("again " + n, Play.world(x, "cost 3 m=4&s>1|o<2&!k=1;cost 8 !m=4|k=0"), 4 + n);
+        Due.is("cost(0, 1) of the last of many", x.cost(0, 1), 11);
     }
 
     private static void cost(KingsBalance x, String test, int zeroToTwo, int twoToZero) {
@@ -346,8 +359,16 @@ public final class KingsTest {
         Due.is("of(0, 0) by the last take", x.of(0, 0), 13);
         x.arm(1, 9);
         Due.is("cost stays by the WORLD", x.cost(1, 0), 2);
-        Play.world(x, "word 5");
+        Play.world(x, "word 5;take 99");
         Due.is("force(1, 40) without less", x.force(1, 40), 9000);
+        Play.world(x, "word 5;take 99;");
+        Play.world(x, "cost 1 k=1");
+        x.pact(1, 0, 1);
+        x.king(3, 3);
+        Due.is("keeps(1, 0, 3) without word", x.keeps(1, 0, 3), 0);
+        x.lead(0, 1, 3);
+        // 9 less 9 * 3000 / 18000
+        Due.is("of(1, 0) without take", x.of(1, 0), 8);
     }
 
     private static void promise10() {

@@ -116,6 +116,11 @@ public final class StandingsTest {
         comes(x, 4, 0, 3, 0b000001, 0b001000);
         x.lead(1, 3, 1);
         comes(x, 4, 0, 5, 0b001001, 0b110100);
+        KingsBalance y = court();
+        y.block(4, 4, 3);
+        y.arm(3, 70);
+        comes(y, 4, 3, 4, 0b001000, 0b110111);
+        comes(y, 4, 4, 5, 0b011000, 0b100111);
     }
 
     private static void promise13Web() {
@@ -149,6 +154,14 @@ public final class StandingsTest {
         comes(x, 3, 0, 1, 0b000001, 0b000110);
         x.lead(1, 3, 2);
         comes(x, 3, 0, 1, 0b000001, 0b000010);
+        KingsBalance y = court();
+        y.pact(0, 1, 1);
+        y.pact(0, 2, 2);
+        comes(y, 3, 3, 1, 0b001000, 0b000011);
+        comes(y, 3, 2, 3, 0b000101, 0b001000);
+        comes(y, 6, 3, 1, 0b001000, 0b000011);
+        comes(y, 6, 2, 3, 0b000101, 0b001000);
+        comes(y, 6, 4, 5, 0b010000, 0b100000);
     }
 
     private static void promise13Guard() {
@@ -159,6 +172,7 @@ public final class StandingsTest {
         comes(x, 5, 0, 1, 0b010001, 0b000110);
         comes(x, 5, 0, 3, 0b000001, 0b111110);
         comes(x, 5, 3, 0, 0b001000, 0b010001);
+        comes(x, 5, 4, 3, 0b010000, 0b101111);
         x.lead(1, 3, 1);
         comes(x, 5, 0, 3, 0b000001, 0b111100);
         x.standing(5, 9);
@@ -246,6 +260,8 @@ public final class StandingsTest {
         Due.is("dares(1, 3, 1)", x.dares(1, 3, 1), 0);
         x.worth(2, 0, 0);
         Due.is("dares(1, 0, 0) what is worth nothing", x.dares(1, 0, 0), 0b010010);
+        x.worth(2, 0, 1);
+        Due.is("dares(1, 0, 0) what is worth 1", x.dares(1, 0, 0), 0b010110);
         Play.world(x, "cost 10 k=1;cost 9 k=3");
         Due.is("dares(1, 1, 0) a gain of 0", x.dares(1, 1, 0), 0);
         Due.is("dares(1, 3, 0) a gain of 1", x.dares(1, 3, 0), 0b110111);

@@ -17,6 +17,7 @@ public final class WarsTest {
         promise27();
         promise28();
         promise28Bars();
+        promise28League();
         promise28Refusals();
         Due.end("WarsTest");
     }
@@ -62,6 +63,14 @@ public final class WarsTest {
         even.standing(1, 0);
         Due.is("lead(0, 0, 1) even", even.lead(0, 0, 1), 0);
         strengths("even", even, 4, 5);
+        // the least sum that wins: 4 at 31 miles, of which 129 each is less, are a force of 1
+        KingsBalance faint = Play.kings(4, 31, 0, 0, 4, 31);
+        faint.standing(2, 0);
+        faint.block(0, 2, 1);
+        Play.world(faint, "less 129");
+        Due.is("war(0, 0, 1, 1) of faint ones", faint.war(0, 0, 1, 1), 1);
+        Due.is("lead(0, 0, 1) of faint ones", faint.lead(0, 0, 1), 0);
+        strengths("faint ones", faint, 2, 0, 2);
         KingsBalance weak = Play.kings(9, 0, 1, 40);
         weak.standing(1, 0);
         Play.world(weak, "less 999");
@@ -163,7 +172,12 @@ public final class WarsTest {
         Due.is("courted() of equals", equal.courted(), 1);
         KingsBalance none = Play.kings(0, 0, 0, 0);
         Due.is("courted() of no strength", none.courted(), 0);
-        // 3 turns of 50 are 6, 3 of 49 are 6, 3 of 48 are 6, cut
+        // 20 turns by 68 are 29, and by 67, cut
+        KingsBalance seven = Play.kings(68, 0, 67, 0, 68, 0, 68, 0, 68, 0, 68, 0, 68, 0);
+        Due.is("courted() of seven", seven.courted(), 0);
+        seven.arm(1, 66);
+        Due.is("courted() of seven, one less", seven.courted(), 1);
+        // 2 turns by 50 are 4, and by 49 and 48, cut
         KingsBalance cut = Play.kings(50, 0, 49, 0, 48, 0);
         Due.is("edge(0)", cut.edge(0), 2);
         Due.is("courted() cut", cut.courted(), 0);
@@ -234,21 +248,21 @@ public final class WarsTest {
     private static void promise26() {
         KingsBalance x = Play.kings(20, 0, 20, 0);
         x.standing(1, 0);
-        Due.is("few(0, 0) one less", x.few(0, 0), -1);
+        Due.is("few(0, 0) one less", x.few(0, 0), 1);
         Due.is("few(0, 1) one less", x.few(0, 1), 0);
         x.worth(0, 1, 0);
         // king 1 gains nothing: he has to have less, or king 0 more
-        Due.is("few(0, 0) one less of king 1", x.few(0, 0), -1);
+        Due.is("few(0, 0) one less of king 1", x.few(0, 0), 1);
         Due.is("few(0, 1) one less of king 1", x.few(0, 1), 1);
         strengths("few changes nothing", x, 20, 20);
         x.arm(0, 15);
-        Due.is("few(0, 0) six less of king 1", x.few(0, 0), -6);
+        Due.is("few(0, 0) six less of king 1", x.few(0, 0), 6);
         Due.is("few(0, 1) six less of king 1", x.few(0, 1), 1);
         x.arm(1, 45);
         Due.is("few(0, 0) out of reach", x.few(0, 0), 0);
         Due.is("few(0, 1) out of reach", x.few(0, 1), -5);
         x.arm(1, 44);
-        Due.is("few(0, 0) 30", x.few(0, 0), -30);
+        Due.is("few(0, 0) 30", x.few(0, 0), 30);
         x.arm(0, 0);
         x.arm(1, 10);
         // 0 and 10: less of king 1 never wins, his 0 is the end of it
@@ -270,13 +284,13 @@ public final class WarsTest {
         x.worth(0, 1, 0);
         x.worth(2, 0, 0);
         x.worth(2, 1, 0);
-        Due.is("few(0, 0) less first", x.few(0, 0), -2);
+        Due.is("few(0, 0) less first", x.few(0, 0), 2);
         Due.is("few(0, 1) less first", x.few(0, 1), 1);
         // of 99 there is no more, and of 0 no less
         KingsBalance top = Play.kings(99, 0, 99, 0);
         top.standing(1, 0);
         top.worth(1, 0, 0);
-        Due.is("few(0, 0) at 99", top.few(0, 0), -1);
+        Due.is("few(0, 0) at 99", top.few(0, 0), 1);
         Due.is("few(0, 1) at 99", top.few(0, 1), 0);
         KingsBalance low = Play.kings(0, 0, 0, 0, 0, 0);
         low.standing(1, 0);
@@ -287,6 +301,11 @@ public final class WarsTest {
         low.arm(2, 0);
         Due.is("few(0, 0) not of the fallen", low.few(0, 0), 1);
         Due.is("few(0, 1) not of the fallen", low.few(0, 1), 1);
+        // nobody can have 100
+        KingsBalance dear = Play.kings(99, 0, 50, 0);
+        dear.standing(1, 0);
+        Play.world(dear, "cost 99 s<100");
+        Due.is("few(0, 0) above 99", dear.few(0, 0), 0);
         Due.is("few of nobody", nobody().few(0, 0), 0);
         Due.is("few of nobody, the king", nobody().few(0, 1), -5);
     }
@@ -307,6 +326,9 @@ public final class WarsTest {
         x.worth(4, 3, 0);
         Due.is("guarded(0) what nobody wants", x.guarded(0), 0b11000);
         x.lead(0, 3, 4);
+        x.worth(0, 3, 0);
+        Due.is("guarded(0) with king 0", x.guarded(0), 0b01001);
+        x.worth(0, 3, 10);
         Due.is("guarded(0) alive", x.guarded(0), 0b01000);
         Due.is("guarded(1)", x.guarded(1), NONE);
         Due.is("guarded(-1)", x.guarded(-1), NONE);
@@ -360,6 +382,16 @@ public final class WarsTest {
         Due.is("marry(0, 0, 2, 1) dared by as many", y.marry(0, 0, 2, 1), 0);
         y.worth(1, 2, 0);
         Due.is("marry(0, 0, 2, 1) dared by more", y.marry(0, 0, 2, 1), 0b010);
+    }
+
+    private static void promise28League() {
+        // wed, he has 20 of 40, and is not feared; the STRENGTH of b is not there twice
+        KingsBalance x = Play.kings(10, 0, 10, 0, 9, 0, 11, 0);
+        x.standing(4, 0);
+        x.block(0, 1, 0);
+        // now 0 and 1 dare 2 and 3, and 3 dares 2; then 0 dares both, and 3 dares 2
+        Due.is("marry(0, 0, 1, 0) in a league", x.marry(0, 0, 1, 0), -2);
+        Due.is("marry(0, 0, 1, 1) in a league", x.marry(0, 0, 1, 1), 0);
     }
 
     private static void promise28Refusals() {

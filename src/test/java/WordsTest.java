@@ -57,6 +57,14 @@ public final class WordsTest {
         Due.is("empty(1) no pacts", x.empty(1), 0);
         Play.world(x, "cost 6 k=0;word 6");
         Due.is("empty(0) no more than word", x.empty(0), 0);
+        x.pact(1, 2, 1);
+        Play.world(x, "cost 7 k=1&!m=3;word 6");
+        Due.is("empty(1) kept against 0 alone", x.empty(1), 0);
+        Play.world(x, "cost 7 k=1&!m=7;word 6");
+        Due.is("empty(1) kept against 3 alone", x.empty(1), 0);
+        Play.world(x, "cost 7 k=1&!m=2;word 6");
+        Due.is("empty(1) kept against 2 himself alone", x.empty(1), 0b0100);
+        x.pact(1, 2, 0);
         Due.is("empty(4)", x.empty(4), NONE);
         Due.is("empty(-1)", x.empty(-1), NONE);
         Play.world(x, "cost 7 k=0&!m=10;word 6");
