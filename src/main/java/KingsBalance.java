@@ -237,10 +237,11 @@ public final class KingsBalance {
         Standing s = realm.standingAt(standing);
         if (s == null || outside(what, 1)) return NONE;
         if (s.firstWar(realm) >= 0) return STATE;
-        // the change is answered without its way: below 0 stand the refusals
         for (int n = 1; n <= MOST_CHANGE; n++) {
+            // of one size, less goes ahead of more
             int king = upsetBy(s, -n);
-            if (king < 0) king = upsetBy(s, n);
+            if (king >= 0) return what == 0 ? -n : king;
+            king = upsetBy(s, n);
             if (king >= 0) return what == 0 ? n : king;
         }
         return what == 0 ? 0 : NOBODY;

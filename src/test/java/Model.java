@@ -571,7 +571,7 @@ final class Model {
                 now.kings.get(k).strength = n;
                 boolean upset = !pairs(s).isEmpty();
                 now = before;
-                if (upset) return what == 0 ? Math.abs(change) : k;
+                if (upset) return what == 0 ? change : k;
             }
         }
         return what == 0 ? 0 : -5;

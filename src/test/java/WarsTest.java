@@ -248,26 +248,31 @@ public final class WarsTest {
     private static void promise26() {
         KingsBalance x = Play.kings(20, 0, 20, 0);
         x.standing(1, 0);
-        Due.is("few(0, 0) one less", x.few(0, 0), 1);
+        Due.is("few(0, 0) one less", x.few(0, 0), -1);
         Due.is("few(0, 1) one less", x.few(0, 1), 0);
         x.worth(0, 1, 0);
         // king 1 gains nothing: he has to have less, or king 0 more
-        Due.is("few(0, 0) one less of king 1", x.few(0, 0), 1);
+        Due.is("few(0, 0) one less of king 1", x.few(0, 0), -1);
         Due.is("few(0, 1) one less of king 1", x.few(0, 1), 1);
         strengths("few changes nothing", x, 20, 20);
         x.arm(0, 15);
-        Due.is("few(0, 0) six less of king 1", x.few(0, 0), 6);
+        Due.is("few(0, 0) six less of king 1", x.few(0, 0), -6);
         Due.is("few(0, 1) six less of king 1", x.few(0, 1), 1);
         x.arm(1, 45);
         Due.is("few(0, 0) out of reach", x.few(0, 0), 0);
         Due.is("few(0, 1) out of reach", x.few(0, 1), -5);
         x.arm(1, 44);
-        Due.is("few(0, 0) 30", x.few(0, 0), 30);
+        Due.is("few(0, 0) 30 less", x.few(0, 0), -30);
         x.arm(0, 0);
         x.arm(1, 10);
         // 0 and 10: less of king 1 never wins, his 0 is the end of it
         Due.is("few(0, 0) more of king 0", x.few(0, 0), 11);
         Due.is("few(0, 1) more of king 0", x.few(0, 1), 0);
+        x.arm(1, 29);
+        Due.is("few(0, 0) 30 more", x.few(0, 0), 30);
+        x.arm(1, 30);
+        Due.is("few(0, 0) 31 more", x.few(0, 0), 0);
+        Due.is("few(0, 1) 31 more", x.few(0, 1), -5);
         x.arm(0, 99);
         Due.is("few(0, 0) not quiet", x.few(0, 0), STATE);
         Due.is("few(0, 1) not quiet", x.few(0, 1), STATE);
@@ -284,13 +289,26 @@ public final class WarsTest {
         x.worth(0, 1, 0);
         x.worth(2, 0, 0);
         x.worth(2, 1, 0);
-        Due.is("few(0, 0) less first", x.few(0, 0), 2);
+        Due.is("few(0, 0) less first", x.few(0, 0), -2);
         Due.is("few(0, 1) less first", x.few(0, 1), 1);
+        // 3 less is the number of STATE, too; the KING tells them apart
+        x.arm(1, 22);
+        Due.is("few(0, 0) three less", x.few(0, 0), -3);
+        Due.is("few(0, 1) three less", x.few(0, 1), 1);
+        // 1 more of king 0 goes ahead of 2 less of king 1, though less is first where both are of one size
+        KingsBalance small = Play.kings(20, 0, 20, 0);
+        small.standing(1, 0);
+        Play.world(small, "cost 10 s<21&o>18");
+        Due.is("few(0, 0) one more", small.few(0, 0), 1);
+        Due.is("few(0, 1) one more", small.few(0, 1), 0);
+        Play.world(small, "cost 10 o>18");
+        Due.is("few(0, 0) two less", small.few(0, 0), -2);
+        Due.is("few(0, 1) two less", small.few(0, 1), 0);
         // of 99 there is no more, and of 0 no less
         KingsBalance top = Play.kings(99, 0, 99, 0);
         top.standing(1, 0);
         top.worth(1, 0, 0);
-        Due.is("few(0, 0) at 99", top.few(0, 0), 1);
+        Due.is("few(0, 0) at 99", top.few(0, 0), -1);
         Due.is("few(0, 1) at 99", top.few(0, 1), 0);
         KingsBalance low = Play.kings(0, 0, 0, 0, 0, 0);
         low.standing(1, 0);
