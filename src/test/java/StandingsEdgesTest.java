@@ -228,6 +228,17 @@ public final class StandingsEdgesTest {
         KingsBalance x = seven(5, 3);
         for (int k = 2; k < 7; k++) x.pact(k, k % 2, k % 2 == 0 ? 2 : 1);
         comes(x, 0, 0, 1, 0b1010101, 0b0101010);
+        Due.says(13, "3 he stays out of his wars (also if he has one with the other side)");
+        for (int k = 2; k < 7; k++) x.pact(k, (k + 1) % 2, 3);
+        comes(x, 0, 0, 1, 1, 2);
+        comes(x, 0, 1, 0, 2, 1);
+        for (int k = 2; k < 7; k++) x.pact(k, (k + 1) % 2, 0);
+        comes(x, 0, 0, 1, 0b1010101, 0b0101010);
+        // he stays out of the wars of that one alone
+        for (int k = 2; k < 7; k++) x.pact(k, k == 6 ? 5 : 6, 3);
+        comes(x, 0, 0, 1, 0b1010101, 0b0101010);
+        comes(x, 0, 0, 6, 1, 0b1000000);
+        Due.says(13, "1 he stands with him if that one is attacked, 2 also if that one attacks");
         // PACTS of a or b with him do not call him
         KingsBalance y = seven(5, 3);
         for (int k = 2; k < 7; k++) {

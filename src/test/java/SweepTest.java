@@ -21,8 +21,9 @@ public final class SweepTest {
         for (String line : lines) CALLS.put(line.split(" ")[0], line);
     }
 
-    private final List<String> setUp = new ArrayList<>();
     private final String name;
+    private final List<String> steps = new ArrayList<>();
+    private final List<Object[]> stepArgs = new ArrayList<>();
     private KingsBalance x;
     private Model model;
     private int calls;
@@ -105,19 +106,17 @@ public final class SweepTest {
         }
     }
 
+    /** One more call that makes the object what is swept. */
     private void call(String call, Object... args) {
-        setUp.add(call);
-        setUp.add(Arrays.toString(args));
-        steps.add(args);
+        steps.add(call);
+        stepArgs.add(args);
     }
-
-    private final List<Object[]> steps = new ArrayList<>();
 
     private void anew() throws ReflectiveOperationException {
         x = new KingsBalance();
         model = new Model();
         calls = 0;
-        for (int i = 0; i < steps.size(); i++) both(setUp.get(2 * i), steps.get(i));
+        for (int i = 0; i < steps.size(); i++) both(steps.get(i), stepArgs.get(i));
     }
 
     private void sweep(int kings, int standings) throws ReflectiveOperationException {
