@@ -612,6 +612,13 @@ public final class WarsEdgesTest {
         league.block(0, 1, 0);
         Due.is("dares(0, 0, 0) of 20 of 40", league.dares(0, 0, 0), 0b1100);
         marry(league, 0, 1, -2, 0);
+        // nor is it less than nothing: 0 has 21 of 41 then, and comes with 20000 against 20000 of all others
+        KingsBalance feared = Play.kings(10, 10, 11, 10, 9, 0, 11, 0);
+        feared.standing(4, 0);
+        feared.block(0, 1, 0);
+        Play.world(feared, "less 100");
+        Due.is("dares(0, 3, 0)", feared.dares(0, 3, 0), 0b0100);
+        marry(feared, 0, 1, 0, 0);
         // with one who is FALLEN: five pairs, and three
         KingsBalance fallen = alone(3, 3, 5, 0, 9);
         fallen.lead(0, 4, 3);
