@@ -506,11 +506,11 @@ public final class KingsBalance {
         }
 
         int turns(int king) {
-            int others = alive & ~(1 << king), half = strengthOf(alive), n = 0;
+            int others = alive & ~(1 << king), whole = strengthOf(alive), n = 0;
             for (int set = 0; set <= others; set++) {
                 if ((set & others) != set) continue;
                 int twice = 2 * strengthOf(set);
-                if (twice <= half && twice + 2 * strength[king] > half) n++;
+                if (twice <= whole && twice + 2 * strength[king] > whole) n++;
             }
             return n;
         }
